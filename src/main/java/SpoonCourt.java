@@ -1169,7 +1169,7 @@ public final class SpoonCourt {
             trial.copyFrom(now.life);
         }
 
-        private void pass(int n) {
+        private void goOn(int n) {
             for (int i = 0; i < n; i++) {
                 clockwork.pass(trial, now.realm, now.force);
             }
@@ -1177,7 +1177,7 @@ public final class SpoonCourt {
 
         int after(int number, int n, int what) {
             begin();
-            pass(n);
+            goOn(n);
             if (what == 0) {
                 return clockwork.hand(trial, now.realm, now.force);
             }
@@ -1238,7 +1238,7 @@ public final class SpoonCourt {
             for (int laid = NONE; laid < now.realm.things; laid++) {
                 begin();
                 trial.tray = laid;
-                pass(n);
+                goOn(n);
                 int sum = now.realm.rankOf(trial.titles[person]);
                 if (sum > most) {
                     most = sum;
@@ -1250,13 +1250,13 @@ public final class SpoonCourt {
 
         int timesHeld(int thing, int n) {
             begin();
-            pass(n);
+            goOn(n);
             return trial.times[thing] - now.life.times[thing];
         }
 
         int neverHeld(int n) {
             begin();
-            pass(n);
+            goOn(n);
             int bits = 0;
             for (int t = 0; t < now.realm.things; t++) {
                 if (trial.times[t] == now.life.times[t]) {
@@ -1273,7 +1273,7 @@ public final class SpoonCourt {
                 begin();
                 trial.thank(one, 10 * tensOfOne);
                 trial.thank(other, 10 * tensOfOther);
-                pass(n);
+                goOn(n);
                 gainsOfOne[two] = now.realm.rankOf(trial.titles[one]) - tensOfOne;
                 gainsOfOther[two] = now.realm.rankOf(trial.titles[other]) - tensOfOther;
             }
