@@ -36,9 +36,6 @@ public final class SpoonCourt {
     private int ruleCount;
 
     public SpoonCourt() {
-        for (int k = 0; k < images.length; k++) {
-            images[k] = new Whole();
-        }
     }
 
     public int feed(int a, int b, int c, int d, int e) {
@@ -353,13 +350,15 @@ public final class SpoonCourt {
         if (!isWithin(k, 0, IMAGES_MOST - 1)) {
             return NONE;
         }
+        if (images[k] == null) {
+            images[k] = new Whole();
+        }
         images[k].copyFrom(now);
-        images[k].kept = true;
         return now.life.hour;
     }
 
     public int back(int k) {
-        if (!isWithin(k, 0, IMAGES_MOST - 1) || !images[k].kept) {
+        if (!isWithin(k, 0, IMAGES_MOST - 1) || images[k] == null) {
             return NONE;
         }
         now.copyFrom(images[k]);
@@ -504,7 +503,6 @@ public final class SpoonCourt {
         int notes;
         int force = NONE;
         int x;
-        boolean kept;
 
         Whole() {
             for (int i = 0; i < past.length; i++) {

@@ -163,6 +163,8 @@ public final class ActsTest {
         due("two titles", heldThen(three, "hold 9-thing if hour<2;hold thing+1 if titles=2", 2), 0);
         due("due at first", heldThen(three, "hold 1 if due=1", 0), 0);
         due("due as the hour begins", heldThen(three, "hold 1 if due=1", 1), -1);
+        due("due with just as much", heldThen("court 1 9;thing 1;person 9 0", "hold 1 if due=1", 0), 0);
+        due("last is 1", heldThen(three, "hold 3-last*2", 2), 0);
         due("knights", heldThen(three, "hold 1 if hour<2;hold 2+thing if knights=2", 2), 2);
         due("knights at first", heldThen(three, "hold 1 if knights=0", 0), 0);
         due("most", heldThen(three, "hold 1 if most=12", 0), 0);

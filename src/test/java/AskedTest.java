@@ -22,6 +22,8 @@ public final class AskedTest {
         promise31();
         promise32();
         nothingChanges();
+        sixOfEach();
+        sixRules();
         Checks.finish("AskedTest");
     }
 
@@ -413,6 +415,9 @@ public final class AskedTest {
             some += thing >= 0 ? 1 : 0;
         }
         due("some hours a thing", drawn.years(1, 60, 30, 0), some);
+        SpoonCourt one = Checks.at("court 1 1;thing 7;person 0 1");
+        due("the only thing", one.years(2, 1, 100, 1), 14);
+        due("dubbed with it in both", one.years(2, 1, 100, 0), 2);
         SpoonCourt bare = Checks.at("court 1 1;person 0 1");
         due("without things by a hand", bare.years(10, 60, 100, 0), 0);
         due("m 0", x.years(0, 1, 0, 0), -1);
@@ -439,6 +444,65 @@ public final class AskedTest {
             }
         }
         return row;
+    }
+
+    /** Person k has the titles of things 0 to k, all ranks are 1, 2, .. 6. */
+    private static void sixOfEach() {
+        StringBuilder text = new StringBuilder("court 12 99");
+        for (int t = 1; t <= 6; t++) {
+            text.append(";thing ").append(t).append(";person 0 0");
+        }
+        SpoonCourt x = Checks.at(text + ";holds 11 5;quarrel 0 5;quarrel 4 5");
+        for (int p = 0; p < 6; p++) {
+            for (int t = 0; t <= p; t++) {
+                give(x, p, t);
+            }
+        }
+        // 21 hours have passed: it is 9 by the clock
+        due("rank of all", x.person(5, 3), 21);
+        due("who has the last", x.thing(5, 2), 1);
+        due("who have the first", x.thing(0, 2), 6);
+        due("knights", x.count(10), 63);
+        due("first", x.place(5), 0);
+        due("last", x.place(0), 5);
+        due("the one with the sixth", x.stripped(1), 32);
+        // ranks 1, 3, 6, 10, 15, 21: 56 in all
+        due("gold of the last", x.gold(56, 5), 21);
+        due("gold of the first", x.gold(57, 0), 1);
+        due("gold left, to who lost most", x.gold(57, 5), 22);
+        due("the sixth in hand", x.ahead(0, 2, 0), 5);
+        due("the sixth in six hours", x.held(6, 5), 1);
+        due("never held", x.held(6, 6), 31);
+        due("the best for the first", x.lay(0, 1, 0), -1);
+        x.deed(0, 99);
+        due("the best for one who is due", x.lay(0, 1, 0), 5);
+        due("how much", x.lay(0, 1, 1), 7);
+        due("by a hand", x.dubbed(0, 1), -1);
+        x.tray(5);
+        due("the sixth thing", x.dubbed(0, 1), 5);
+        due("sparing it", x.spare(5, 8, 1), 1);
+        due("a deed for it", x.least(5, 4, 60), 0);
+        due("rests", x.rests(5, 4, 20, 0), 1);
+        due("years", x.years(10, 60, 0, 1), 620);
+        due("dubbed in these", x.years(10, 60, 0, 0), 10);
+    }
+
+    private static void sixRules() {
+        SpoonCourt x = Checks.at("court 1 99" + Checks.times(";thing 1", 6));
+        for (int r = 0; r < 6; r++) {
+            Checks.rule(x, "hold 1 if thing=" + r + " or hour=60 and " + r + "<3 and thing=5");
+        }
+        // none holds nothing; in hour 60 the first three hold what they do, as the least
+        due("all seven", x.ruled(0), 7);
+        due("all part at once", x.look(0), 0);
+        due("one each", x.look(1), 1);
+        x.note(60, 5);
+        due("the last alone", x.ruled(1), 5);
+        due("one", x.ruled(0), 1);
+        x.note(-1, 0);
+        x.note(0, -1);
+        due("none alone", x.ruled(1), -1);
+        due("just one", x.ruled(0), 1);
     }
 
     private static String state(SpoonCourt x) {

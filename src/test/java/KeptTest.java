@@ -49,6 +49,8 @@ public final class KeptTest {
         due("image at 0", x.image(3), 0);
         x.hour();
         due("image at 1", x.image(0), 1);
+        due("back to the last one", x.back(3), 0);
+        due("and to the first one", x.back(0), 1);
         due("image 4", x.image(4), -1);
         due("image -1", x.image(-1), -1);
         due("without a court", new SpoonCourt().image(0), 0);

@@ -89,15 +89,21 @@ public final class RandomRunsTest {
         return random.nextInt(5) == 0 ? "  " : " ";
     }
 
+    /** Mostly a few, often as many as there may be, and now and then none or one too many. */
+    private int howMany() {
+        int kind = random.nextInt(8);
+        return kind == 0 ? random.nextInt(8) : kind < 3 ? 6 : 1 + random.nextInt(4);
+    }
+
     private String courtText() {
         int day = 1 + random.nextInt(random.nextBoolean() ? 4 : 12);
         int owed = 1 + random.nextInt(random.nextBoolean() ? 20 : 99);
         StringBuilder s = new StringBuilder("court" + blank() + day + blank() + owed);
-        int things = random.nextInt(8) == 0 ? random.nextInt(8) : 1 + random.nextInt(4);
+        int things = howMany();
         for (int i = 0; i < things; i++) {
             s.append(";thing").append(random.nextInt(21));
         }
-        int people = random.nextInt(8) == 0 ? random.nextInt(8) : 1 + random.nextInt(4);
+        int people = howMany();
         for (int i = 0; i < people; i++) {
             s.append(";person").append(random.nextInt(random.nextBoolean() ? 20 : 100)).append(blank())
                     .append(random.nextInt(random.nextBoolean() ? 4 : 10));
@@ -159,8 +165,8 @@ public final class RandomRunsTest {
     }
 
     private void call(long seed, String name) {
-        int a = number(3);
-        int b = number(3);
+        int a = number(random.nextBoolean() ? 3 : 5);
+        int b = number(random.nextBoolean() ? 3 : 5);
         int n = number(60);
         int w = number(1);
         int k = number(4);

@@ -29,7 +29,7 @@ public final class RoomTest {
         long asked = made() - before;
         long millis = (System.nanoTime() - start) / 1000000;
         System.out.println("bytes of a new object " + born + ", of 512 dear calls " + asked + ", " + millis + " ms");
-        Checks.due("a new object is below 40,000 bytes", born < 40000 ? 1 : 0, 1);
+        Checks.due("a new object is below 20,000 bytes", born < 20000 ? 1 : 0, 1);
         Checks.due("calls make next to nothing", asked < 20000 ? 1 : 0, 1);
         Checks.finish("RoomTest");
     }

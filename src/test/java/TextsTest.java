@@ -94,6 +94,12 @@ public final class TextsTest {
         due("digits", Checks.court(x, "court 00012 00099"), 0);
         due("six of each", Checks.court(x, "court 1 1" + Checks.times(";thing 1", 6)
                 + Checks.times(";person 0 0", 6)), 6);
+        String full = "court 1 1" + Checks.times(";thing 1", 6);
+        due("400 bytes", Checks.court(x, full + Checks.times(" ", 400 - full.length())), 6);
+        due("400 bytes and a digit last", Checks.court(x, full + Checks.times(" ", 392 - full.length())
+                + ";person0"), Checks.fault(400, 0));
+        due("400 bytes and a word last", Checks.court(x, full + Checks.times(" ", 394 - full.length())
+                + ";thing"), Checks.fault(395, 4));
         due("forty clauses", Checks.court(x, "court 1 1" + Checks.times(";thing 1", 2)
                 + Checks.times(";holds0 0", 37)), 2);
     }
@@ -239,6 +245,9 @@ public final class TextsTest {
         ruleFault(twelve + "; hold 1", 85, 4);
         ruleFault(twelve + "; holds 1", 85, 0);
         ruleFault(twelve + ";", 84, 0);
+        ruleFault("hold 1 if 1" + Checks.times(" ", 388) + "<", 400, 0);
+        ruleFault("hold 1 if 1=1" + Checks.times(" ", 385) + "an", 398, 0);
+        ruleFault("hold 1 if 1=1" + Checks.times(" ", 384) + "and", 400, 0);
     }
 
     private static void promise6() {
