@@ -1193,16 +1193,28 @@ public final class SpoonCourt {
             return REFUSED;
         }
 
+        /**
+         * Who is dubbed at once has no THANKS then, however great the DEED: with the same THING
+         * in hand it goes on as it did for a lesser one, and that was in vain.
+         */
         int leastDeed(int person, int thing, int n) {
+            int heldInVain = REFUSED;
             for (int much = 0; much <= DEED_TRIED_MOST; much++) {
                 begin();
                 trial.thank(person, much);
-                for (int i = 0; i < n && !trial.hasTitle(person, thing); i++) {
+                int dubbedThen = clockwork.pass(trial, now.realm, now.force);
+                boolean isAtOnce = (dubbedThen >> person & 1) != 0;
+                int heldAtOnce = trial.last;
+                if (isAtOnce && heldAtOnce == heldInVain) {
+                    continue;
+                }
+                for (int i = 1; i < n && !trial.hasTitle(person, thing); i++) {
                     clockwork.pass(trial, now.realm, now.force);
                 }
                 if (trial.hasTitle(person, thing)) {
                     return much;
                 }
+                heldInVain = isAtOnce ? heldAtOnce : heldInVain;
             }
             return REFUSED;
         }
