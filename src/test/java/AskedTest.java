@@ -505,19 +505,6 @@ public final class AskedTest {
         due("just one", x.ruled(0), 1);
     }
 
-    private static String state(SpoonCourt x) {
-        StringBuilder all = new StringBuilder();
-        for (int what = 0; what <= 14; what++) {
-            all.append(x.count(what)).append(' ');
-        }
-        for (int k = 0; k < 6; k++) {
-            for (int what = 0; what <= 4; what++) {
-                all.append(x.person(k, what)).append(' ').append(x.thing(k, what)).append(' ');
-            }
-        }
-        return all.toString();
-    }
-
     private static void nothingChanges() {
         SpoonCourt x = withFour();
         x.force(2);
@@ -525,7 +512,7 @@ public final class AskedTest {
         x.tray(1);
         x.gloves(3);
         x.seed(17);
-        String before = state(x);
+        String before = Checks.state(x);
         x.ahead(0, 100, 1);
         x.dubbed(0, 0);
         x.least(0, 0, 60);
@@ -540,6 +527,6 @@ public final class AskedTest {
         x.ruled(0);
         x.look(0);
         x.years(10, 60, 50, 0);
-        due("nothing changes by asking", before.equals(state(x)) ? 1 : 0, 1);
+        due("nothing changes by asking", before.equals(Checks.state(x)) ? 1 : 0, 1);
     }
 }

@@ -1,17 +1,56 @@
 /** What the tests share: telling texts, and counting answers that are not the ones due. */
 final class Checks {
+    /** Numbers that no person, thing, hour, number of hours or what of the document is. */
+    static final int[] OUTSIDE = {Integer.MIN_VALUE, Integer.MIN_VALUE + 1, -65536, -1000, -33, -3, -2,
+        1000000, 65536, 2147483616, Integer.MAX_VALUE - 1, Integer.MAX_VALUE};
+
     private static int wrong = 0;
     private static int asked = 0;
+    private static String heading = "";
 
     private Checks() {
+    }
+
+    /** What is told ahead of each wrong answer from now on. */
+    static void head(String words) {
+        heading = words + ": ";
+    }
+
+    static int askedSoFar() {
+        return asked;
     }
 
     static void due(String call, long got, long want) {
         asked++;
         if (got != want) {
             wrong++;
-            System.out.println(call + " answered " + got + ", due is " + want);
+            System.out.println(heading + call + " answered " + got + ", due is " + want);
         }
+    }
+
+    static void dueText(String call, String got, String want) {
+        asked++;
+        if (!got.equals(want)) {
+            wrong++;
+            System.out.println(heading + call + " answered " + got + ", due is " + want);
+        }
+    }
+
+    /** All that can be seen of an object by calls that change nothing. */
+    static String state(SpoonCourt x) {
+        StringBuilder all = new StringBuilder();
+        for (int what = 0; what <= 14; what++) {
+            all.append(x.count(what)).append(' ');
+        }
+        for (int k = 0; k < 6; k++) {
+            for (int what = 0; what <= 4; what++) {
+                all.append(x.person(k, what)).append(' ').append(x.thing(k, what)).append(' ');
+            }
+        }
+        for (int clock = 0; clock < 12; clock++) {
+            all.append(x.usual(clock)).append(' ');
+        }
+        return all.append(x.ruled(0)).append(' ').append(x.ruled(1)).toString();
     }
 
     static void finish(String name) {
