@@ -55,6 +55,9 @@ final class BoundsOfAhead {
         }
         due("what 3", x.ahead(0, 0, 3), -2);
         due("what -1", x.ahead(0, 0, -1), -2);
+        due("titles then", x.ahead(1, 2, 1), 2);
+        due("titles not yet", x.ahead(1, 1, 1), 0);
+        due("thanks then", x.ahead(1, 1, 2), 7);
         due("the sixth", Checks.at("court 1 9" + ";person 0 1".repeat(6)).ahead(5, 8, 2), 8);
         due("dubbed in the ninth", Checks.at("court 1 9" + ";person 0 1".repeat(6)).ahead(5, 9, 2), 0);
     }
@@ -311,6 +314,9 @@ final class BoundsOfAhead {
         SpoonCourt z = Checks.at("court 1 1;thing 0;thing 0;person 0 1");
         due("by 0 none", z.lay(0, 60, 0), -1);
         due("0", z.lay(0, 60, 1), 0);
+        SpoonCourt six = Checks.at("court 1 1;thing 1;thing 2;thing 3;thing 4;thing 5;thing 6;person 0 1");
+        due("the sixth", six.lay(0, 60, 0), 5);
+        due("how much by the sixth", six.lay(0, 60, 1), 6);
         due("without things", Checks.at("court 1 1;person 0 1").lay(0, 1, 0), -1);
         due("0 without things", Checks.at("court 1 1;person 0 1").lay(0, 1, 1), 0);
     }
@@ -357,6 +363,11 @@ final class BoundsOfAhead {
     static void promise22Hours1To100() {
         says("HELD for n HOURS (1 to 100): in how many of these he holds a THING");
         SpoonCourt x = Checks.at("court 1 9;thing 1;thing 1;person 0 0", "hold 2 if hour=99 and thing=1;hold 1 if thing=0");
+        x.hour();
+        x.hour();
+        due("what he held is past", x.held(3, 0), 3);
+        x.undo();
+        x.undo();
         due("all of 100", x.held(100, 0), 99);
         due("the 100th", x.held(100, 1), 1);
         due("99", x.held(99, 1), 0);

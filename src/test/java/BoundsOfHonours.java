@@ -127,6 +127,8 @@ final class BoundsOfHonours {
         due("9999", x.gold(9999, 1), 9999);
         due("of who has none", x.gold(9999, 0), 0);
         due("-1", x.gold(-1, 1), -1);
+        due("-1 of who has none", x.gold(-1, 0), -1);
+        due("-20", x.gold(-20, 1), -1);
         due("10000", x.gold(10000, 1), -1);
         for (int k : Checks.OUTSIDE) {
             due("much " + k, x.gold(k, 1), -1);
@@ -170,6 +172,14 @@ final class BoundsOfHonours {
             }
             due("all together of " + much, sum, much);
         }
+    }
+
+    static void promise25AllRankIs1() {
+        says("(nothing, if all RANK is 0)");
+        SpoonCourt x = ranks(";thing 1", 2);
+        give(x, 1, 0);
+        due("all of it", x.gold(9999, 1), 9999);
+        due("of the other", x.gold(9999, 0), 0);
     }
 
     static void promise25AllRankIs0() {
@@ -364,6 +374,19 @@ final class BoundsOfHonours {
         due("seven", y.look(1), 7);
     }
 
+    static void promise30SixThingsAndNothing() {
+        says("by what he held in it these part best: the most alike are fewest");
+        SpoonCourt x = Checks.at("court 1 9" + ";thing 1".repeat(6));
+        for (int r = 0; r < 6; r++) {
+            Checks.rule(x, "hold 1 if hour=42 and thing=" + r);
+        }
+        due("in 42 all part", x.look(0), 42);
+        due("one each", x.look(1), 1);
+        x.note(42, 5);
+        due("the sixth alone", x.ruled(1), 5);
+        due("nothing parts one", x.look(0), 0);
+    }
+
     static void promise30TheseAlone() {
         says("by what he held in it these part best");
         SpoonCourt x = Checks.at("court 1 9;thing 1;thing 1");
@@ -503,6 +526,10 @@ final class BoundsOfHonours {
         x.hour();
         due("once", x.years(1, 1, 0, 1), 12);
         due("ten times", x.years(10, 60, 100, 1), 120);
+        SpoonCourt six = Checks.at("court 1 9;thing 20" + ";person 9 0".repeat(6));
+        six.tray(0);
+        due("of six people", six.years(10, 1, 0, 1), 1200);
+        due("six dubbed", six.years(10, 1, 0, 0), 60);
         due("nobody is dubbed", x.years(10, 60, 100, 0), 0);
     }
 

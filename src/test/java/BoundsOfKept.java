@@ -227,8 +227,9 @@ final class BoundsOfKept {
         for (int i = 0; i < 11; i++) {
             x.undo();
         }
-        x.deed(1, 50);
-        x.deed(1, 50);
+        for (int i = 0; i < 33; i++) {
+            x.deed(1, 50);
+        }
         x.back(3);
         due("acts", x.count(12), 20);
         for (int i = 19; i >= 0; i--) {

@@ -137,6 +137,27 @@ final class BoundsOfTexts {
         due("a digit is gone", x.count(1), 9);
     }
 
+    static void promise03WhatIsCutOffIsNotRead() {
+        says("The TAPE has its first n bytes alone: n;");
+        String[] rules = {"hold 1 if 1<=1", "hold 1 if 1=12345", "hold rank", "hold 1 if 1=1;hold 1"};
+        int[] ends = {12, 12, 8, 14};
+        for (int i = 0; i < rules.length; i++) {
+            SpoonCourt x = new SpoonCourt();
+            Checks.tell(x, rules[i]);
+            x.end(ends[i]);
+            // "hold ran" has a word that can't stand there, the others end where more is wanted
+            due("'" + rules[i] + "' cut off", x.rule(), i == 2 ? Checks.fault(5, 0) : Checks.fault(ends[i], 0));
+        }
+        SpoonCourt y = new SpoonCourt();
+        Checks.tell(y, "court 1 1;thing 1   ;person");
+        y.end(18);
+        due("a court cut off at a blank", y.court(), 1);
+        Checks.tell(y, "court 1 1;thing 123456");
+        y.end(18);
+        due("a number cut off", y.court(), 1);
+        due("rank", y.thing(0, 0), 12);
+    }
+
     static void promise03All() {
         says("The TAPE has its first n bytes alone: n;");
         SpoonCourt x = new SpoonCourt();
@@ -545,6 +566,12 @@ final class BoundsOfTexts {
         // a sum of 3 and 19 facts of 3 each
         due("60 of both", rule("hold 1+1+1 if 1=1" + " or 1=1".repeat(18)), 0);
         due("[ and not are none", rule("hold 1+1+1 if not[not 1=1]" + " or not 1=1".repeat(18)), 0);
+        SpoonCourt x = Checks.at("court 1 1" + ";thing 1".repeat(6));
+        for (int r = 0; r < 6; r++) {
+            due("60 in each rule", Checks.rule(x, "hold 1" + "+0".repeat(56) + " if thing=" + r), r);
+            x.force(r);
+            due("and it is worked out", x.ahead(0, 0, 0), r);
+        }
         due("and they count", Checks.at("court 1 1;thing 1", "hold 1" + "+1".repeat(59)).ahead(0, 0, 0), 0);
     }
 
