@@ -31,7 +31,30 @@ public final class RoomTest {
         System.out.println("bytes of a new object " + born + ", of 512 dear calls " + asked + ", " + millis + " ms");
         Checks.due("a new object is below 20,000 bytes", born < 20000 ? 1 : 0, 1);
         Checks.due("calls make next to nothing", asked < 20000 ? 1 : 0, 1);
+        long whole = wholeRun(court, rule);
+        System.out.println("bytes of a whole run " + whole);
+        Checks.due("a whole run is below 150,000 bytes", whole < 150000 ? 1 : 0, 1);
         Checks.finish("RoomTest");
+    }
+
+    /** All that is kept at most, and refused texts besides, over some 512 calls; what the test makes itself too. */
+    private static long wholeRun(String court, String rule) {
+        long before = made();
+        SpoonCourt x = new SpoonCourt();
+        Checks.court(x, court);
+        for (int i = 0; i < 7; i++) {
+            Checks.rule(x, i % 2 == 0 ? rule + ";" : rule);
+        }
+        for (int i = 0; i < 6; i++) {
+            Checks.rule(x, rule);
+        }
+        for (int i = 0; i < 100; i++) {
+            x.hour();
+            x.image(i % 4);
+            x.back(3 - i % 4);
+            x.undo();
+        }
+        return made() - before;
     }
 
     private static long made() {
