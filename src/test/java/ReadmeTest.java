@@ -9,7 +9,6 @@ import java.util.Set;
 import java.util.TreeSet;
 import java.util.regex.Matcher;
 import java.util.regex.Pattern;
-import javax.tools.ToolProvider;
 
 /** What README.md shows is so: its code is compiled and run, and its table is asked row by row. */
 public final class ReadmeTest {
@@ -52,8 +51,8 @@ public final class ReadmeTest {
         Path work = Files.createTempDirectory("readme");
         Path file = work.resolve("ReadmeCode.java");
         Files.writeString(file, source);
-        int failed = ToolProvider.getSystemJavaCompiler().run(null, null, null,
-                "-cp", System.getProperty("java.class.path"), "-d", work.toString(), file.toString());
+        int failed = new ProcessBuilder("javac", "-cp", System.getProperty("java.class.path"),
+                "-d", work.toString(), file.toString()).inheritIO().start().waitFor();
         Checks.due("the page's code compiles", failed, 0);
         if (failed == 0) {
             try (URLClassLoader loader = new URLClassLoader(new URL[] {work.toUri().toURL()})) {
